@@ -366,13 +366,26 @@ public final class ChainDesk {
     /** The classes that are declared, and what of them may be used at the place. */
     private static final class Catalog {
         private final Declaration[] declarations = new Declaration[CLASSES];
+        // For each type, a bit for each type that it fits: completing asks for it very often.
+        private final int[] fitted = new int[TYPES];
         private int place = NONE;
+
+        Catalog() {
+            for (int type = 0; type < TYPES; type++) {
+                fitted[type] = 1 << type;
+            }
+            fitted[INT] |= 1 << LONG;
+        }
 
         boolean add(Declaration declaration) {
             if (declared(declaration.number) != null) {
                 return false;
             }
             declarations[declaration.number] = declaration;
+            Declaration parent = declaration.parent;
+            if (parent != null) {
+                fitted[FIRST_CLASS + declaration.number] |= fitted[FIRST_CLASS + parent.number];
+            }
             return true;
         }
 
@@ -381,15 +394,7 @@ public final class ChainDesk {
         }
 
         boolean isFitting(int type, int wanted) {
-            if (type == wanted || type == INT && wanted == LONG) {
-                return true;
-            }
-            for (Declaration d = declared(type - FIRST_CLASS); d != null; d = d.parent) {
-                if (d.number == wanted - FIRST_CLASS) {
-                    return true;
-                }
-            }
-            return false;
+            return (fitted[type] >> wanted & 1) == 1;
         }
 
         boolean isUsable(Declaration owner, Member member) {
@@ -676,9 +681,9 @@ public final class ChainDesk {
         }
 
         void addPhrase(Phrase other) {
-            for (int i = 0; i < other.length; i++) {
-                add(other.letters[i]);
-            }
+            int taken = Math.min(other.length, letters.length - length);
+            System.arraycopy(other.letters, 0, letters, length, taken);
+            length += taken;
         }
 
         void copyFrom(Phrase other) {
@@ -883,12 +888,15 @@ public final class ChainDesk {
                 draft.add(',');
             }
             int mark = draft.length;
+            // Each later argument takes two characters at least, the closing parenthesis one.
+            int room = TEXT_SIZE - mark - 2 * (member.count - given - 1) - 1;
             boolean isLast = given + 1 == member.count;
             for (int cost = isLast ? left : 0; cost <= left; cost++) {
                 Shelf shelf = shelves[cost];
                 for (int i = 0; i < shelf.count; i++) {
                     Phrase argument = shelf.rows[i];
-                    if (catalog.isFitting(argument.type, member.parameters[given])) {
+                    if (argument.length <= room
+                            && catalog.isFitting(argument.type, member.parameters[given])) {
                         draft.length = mark;
                         draft.addPhrase(argument);
                         keepCalls(member, given + 1, left - cost);

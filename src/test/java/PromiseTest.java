@@ -166,6 +166,7 @@ public final class PromiseTest {
             "A{m()}", "A{m():}", "A{m:():int}", "A{m(:int}", "A{m):int}", "A{m(A,A,A):int}", "A{m(int,):int}",
             "A{m(int;):int}", "A{m(int, int):int}", "A{m(x):int}", "A{m(x:int):int}", "A{m(intlong):int}",
             "A{m()():int}", "A{a:A;b:A;c:A;d:A;e:A;f:A;g:A}",
+            "A{a:A;b:A;c:A;d:A;e:A;f:A;", "A{a:A;b:A;c:A;d:A;e:A;f:A", "A{m(A,A,:int}", "A{m(A,A:int}", "A{new(A,A,}",
             "A{x:int;x:long}", "A{x:int;static x:int}", "A{private x:int;x:int}",
             "A{m():int;m(A):int}", "A{m():int;static m():int}", "A{new();new()}", "A{new();private new(A)}",
         };
@@ -358,18 +359,15 @@ public final class PromiseTest {
     private static void completeKeepsEight() {
         Desk x = new Desk();
         x.declare("A{a:A;b:A;c:A;d:A;e:bool;f:int}");
-        x.variable("x:A");
-        x.variable("y:A");
-        due("the eighth", x.proposals(BOOL, 1), List.of("x.e:2:1"));
-        due("the seventh and eighth", x.proposals(INT, 1), List.of("x.f:0:1"));
-        x.desk.forget();
         x.variable("v:A");
         x.variable("w:A");
-        due("the first eight go over all types", x.proposals(BOOL, 1), List.of("v.e:2:1"));
+        due("eight of twelve, whatever their types", x.proposals(A, 1), List.of("v:3:0", "w:3:0", "v.a:3:1",
+                "v.b:3:1", "v.c:3:1", "v.d:3:1", "w.a:3:1", "w.b:3:1"));
+        due("w.e is not among them", x.proposals(BOOL, 1), List.of("v.e:2:1"));
+        due("w.f is not among them", x.proposals(INT, 1), List.of("v.f:0:1"));
         x.desk.forget();
         x.variable("v:A");
-        due("six are kept", x.proposals(BOOL, 1), List.of("v.e:2:1"));
-        due("a ninth is not kept", x.proposals(BOOL, 2), List.of("v.e:2:1", "v.a.e:2:2"));
+        due("eight of each cost", x.proposals(BOOL, 2), List.of("v.e:2:1", "v.a.e:2:2"));
     }
 
     private static void completeKeptOfKept() {
@@ -452,7 +450,6 @@ public final class PromiseTest {
         Desk x = new Desk();
         x.declare("A{x:int;m(int):B;static s():A;private p:bool;n(A,long):C}");
         x.declare("B:A{y:long;new(A);static t:B;static u(B,int):C}");
-        x.declare("C{new();private static v:int;private new:int}");
         x.declare("C{new();private static v:int;z:A;x():A;x:B}");
         x.variable("a:A");
         x.variable("b:B");
@@ -494,6 +491,7 @@ public final class PromiseTest {
             "b.t", "b.s()", "A.x", "A.m(i)", "A.t", "B.s()", "B.x", "A.s", "A.s(i)", "B.t()", "D.x", "K.x", "A.", "A..s()",
             "a.p", "C.v", "a,b", "(a)", "a()", "i()", "new C().", "new C()()", "a.new", "a.int", "A.new", "new B(new C())",
             "a.abcde", "A.abcde", "a.A", "A.B.t", "a.X", "a.m(i).", "c.x.y.y", "B.u(a,i)", "B.u(b,b.y)", "newy",
+            "a.n(", "a.n(a", "a.n(a,", "a.n(a,i", "a.n(i", "a.n(z", "a.n(a,c", "new B(", "new B(b", "new B(i", "B.u(b",
         };
         for (String text : wrong) {
             due("check " + text, x.check(text), BAD);
@@ -540,7 +538,9 @@ public final class PromiseTest {
     private static void checkDepth() {
         Desk x = new Desk();
         x.declare("A{m(A):A;static s(A):A;static n():A;static t(A,A):A;new(A)}");
+        x.declare("B{static i(int):int}");
         x.variable("a:A");
+        due("7 deep, nothing within", x.check(nested("B.i(", "", 7)), BAD);
         due("6 deep", x.check(nested("A.s(", "a", 6)), A);
         due("its cost", x.desk.checkedCost(), 6);
         due("7 deep", x.check(nested("A.s(", "a", 7)), BAD);
@@ -635,7 +635,14 @@ public final class PromiseTest {
         for (int k : new int[] {-1, 7, 23, 24, 25, 120, Integer.MIN_VALUE, Integer.MAX_VALUE}) {
             due("letter 0 " + k, x.desk.letter(0, k), 0);
         }
+        x.variable("a:A");
+        x.complete(A, 0);
+        due("letters of a short text", x.text(0) + x.desk.letter(0, 1), "a0");
         due("its own type, not the one wanted", x.proposals(LONG, 0), List.of("abcd:0:0"));
+        x.desk.forget();
+        x.variable("b:int");
+        x.complete(LONG, 0);
+        due("nothing is left of a longer text", x.desk.letter(0, 1), 0);
     }
 
     private static void proposalsStay() {
