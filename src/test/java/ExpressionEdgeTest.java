@@ -2,21 +2,7 @@ import java.util.ArrayList;
 import java.util.List;
 
 /** 'Terms' from what fits to the proposals, a sentence each: the last that is taken, the first that is not. */
-public final class ExpressionEdgeTest {
-    private static final int BAD = Desk.ILLEGAL_ARGUMENT;
-    private static final int STATE = Desk.ILLEGAL_STATE;
-    private static final int NONE = ChainDesk.NONE;
-    private static final int INT = 0;
-    private static final int LONG = 1;
-    private static final int BOOL = 2;
-    private static final int A = 3;
-    private static final int B = 4;
-    private static final int C = 5;
-    private static final int D = 6;
-    private static final int J = 12;
-
-    private static final Verdict VERDICT = new Verdict();
-
+public final class ExpressionEdgeTest extends DeskCase {
     public static void main(String[] args) {
         whatFits();
         whatIsUsed();
@@ -27,19 +13,18 @@ public final class ExpressionEdgeTest {
         expressionsAreWithoutSpaces();
         costsAreSums();
         textsOf24();
+        textsOfFarMore();
         textsOf25TakeNoPlace();
         keptAreEight();
+        keptInWhateverOrderTheyCome();
         keptLeadOn();
         textsByTheirCharacters();
+        textsBeforeLongerOnes();
         argumentsByTheirCharacters();
         variablesByTheirCharacters();
         proposalsAreTen();
         proposalsByCostThenText();
         VERDICT.end();
-    }
-
-    private static void due(String call, Object got, Object want) {
-        VERDICT.due(call, got, want);
     }
 
     // "A type FITS another one if they are the same, if they are int and long, or ... one of its superclasses."
@@ -144,8 +129,9 @@ public final class ExpressionEdgeTest {
                 due(takes + " wanted " + list, x.check("new " + type + list), taken ? A + takes : BAD);
             }
         }
-        for (String list : new String[] {"", "(", ")", "(a", "(a,", "(a,a", "(,)", "(a,)", "(,a)", "(a a)", "(a;a)", "(a,a,)",
-            "((a,a))", "(a)(a)", "(a,,a)", "[a,a]"}) {
+        String[] wrong = {"", "(", ")", "(a", "(a,", "(a,a", "(,)", "(a,)", "(,a)", "(a a)", "(a;a)", "(a,a,)", "((a,a))",
+            "(a)(a)", "(a,,a)", "[a,a]"};
+        for (String list : wrong) {
             due("c.m" + list, x.check("c.m" + list), BAD);
             due("C.n" + list, x.check("C.n" + list), BAD);
             due("new C" + list, x.check("new C" + list), BAD);
@@ -201,8 +187,9 @@ public final class ExpressionEdgeTest {
         Desk x = new Desk();
         x.declare("A{x:A;m(A,A):A;n():A;new(A);static s:A;static t(A,A):A}");
         x.variable("a:A");
-        String[] texts = {"a", "a.x", "a.n()", "A.s", "new A(a)", "a.m(a,a)", "A.t(a,a)", "a.x.x", "new A(a.x)", "new A(a).x",
-            "A.t(a.x,a)", "A.t(a,a.x)", "A.t(a.x,a.x)", "a.x.m(a,a)", "a.x.m(a.x,A.s).x", "A.t(A.t(a,a),A.t(A.s,a.n()))"};
+        String[] texts = {"a", "a.x", "a.n()", "A.s", "new A(a)", "a.m(a,a)", "A.t(a,a)", "a.x.x", "new A(a.x)",
+            "new A(a).x", "A.t(a.x,a)", "A.t(a,a.x)", "A.t(a.x,a.x)", "a.x.m(a,a)", "a.x.m(a.x,A.s).x",
+            "A.t(A.t(a,a),A.t(A.s,a.n()))"};
         int[] costs = {0, 1, 1, 1, 1, 1, 1, 2, 2, 2, 2, 2, 3, 2, 5, 5};
         for (int i = 0; i < texts.length; i++) {
             due(texts[i], x.check(texts[i]), A);
@@ -235,6 +222,31 @@ public final class ExpressionEdgeTest {
                 "new D(aaa.bbbb,eeee.ccc)", "new D(aaaa.bbbb,eeee.ccc)", 3);
         dueUpTo24(deskOf("A{new(B,C);ffff:F}", "F{ddd:D}", "bbb:B", "bbbb:B", "cccc:C"),
                 "new A(bbb,cccc).ffff.ddd", "new A(bbbb,cccc).ffff.ddd", 3);
+        dueUpTo24(deskOf("A{bbbb:B}", "B{cccc():C}", "D{new(C,E)}", "aaa:A", "aaaa:A", "e:E"),
+                "new D(aaa.bbbb.cccc(),e)", "new D(aaaa.bbbb.cccc(),e)", 3);
+        dueUpTo24(deskOf("A{bbbb:B}", "B{cccc():C}", "D{new(E,C)}", "aaa:A", "aaaa:A", "e:E"),
+                "new D(e,aaa.bbbb.cccc())", "new D(e,aaaa.bbbb.cccc())", 3);
+    }
+
+    // "A text has at most 24 characters.": up to 31 of them, behind an E of 19 .. 24
+    private static void textsOfFarMore() {
+        for (int length = 19; length <= 24; length++) {
+            String argument = "dddd".substring(0, Math.min(4, length - 18));
+            String field = "eee".substring(0, length - 17 - argument.length());
+            String e = "aaaa.bbbb(cccc," + argument + ")." + field;
+            due("length of " + e, e.length(), length);
+            for (int letters = 1; letters <= 4; letters++) {
+                String last = "." + "ffff".substring(0, letters);
+                Desk x = deskOf("A{bbbb(B,C):D}", "D{" + field + ":E}", "aaaa:A", "cccc:B", argument + ":C");
+                x.declare("E{" + last.substring(1) + ":F;" + last.substring(1) + "():G}");
+                due(e, x.proposals(E, 2), List.of(e + ":7:2"));
+                boolean taken = length + 1 + letters <= 24;
+                due(e + last, x.proposals(F, 3), taken ? List.of(e + last + ":8:3") : List.of());
+                taken = length + 3 + letters <= 24;
+                due(e + last + "()", x.proposals(G, 3), taken ? List.of(e + last + "():9:3") : List.of());
+                due("to check", x.check(e + last + "()"), G);
+            }
+        }
     }
 
     /** Both texts are of type D; the second one, of 25 characters, is for check alone. */
@@ -286,6 +298,24 @@ public final class ExpressionEdgeTest {
         }
     }
 
+    // "the first eight by their texts", not by their declarations
+    private static void keptInWhateverOrderTheyCome() {
+        String[][] orders = {
+            {"abc", "defghi"}, {"abc", "defgih"}, {"abc", "ihgfed"}, {"ghi", "abcdef"}, {"ghi", "fedcba"}, {"ihg", "fedcba"},
+            {"iab", "cdefgh"}, {"aib", "hcgdfe"}, {"hia", "bcdefg"}, {"bcd", "efghia"}, {"bcd", "efghai"}, {"cba", "ihgfed"},
+        };
+        for (String[] order : orders) {
+            Desk x = deskOf("I{" + fields(order[1]) + "}", "H:I{" + fields(order[0]) + "}", "v:H");
+            due("eight of nine", x.proposals(INT, 1), List.of("v.a:0:1", "v.b:0:1", "v.c:0:1", "v.d:0:1", "v.e:0:1",
+                    "v.f:0:1", "v.g:0:1", "v.h:0:1"));
+        }
+    }
+
+    /** A field of type int for each letter. */
+    private static String fields(String letters) {
+        return String.join(":int;", letters.split("")) + ":int";
+    }
+
     // "whose E and arguments are kept ones"
     private static void keptLeadOn() {
         String[] six = {"I{a:int;b:int;c:int;d:int;e:int;f:int}", "J{x:D;static s(J):C;m(J):B}"};
@@ -306,6 +336,22 @@ public final class ExpressionEdgeTest {
         Desk x = deskOf("A{xa:A;x():A;x:A;new();static n:A}", "newa:A", "ne:A");
         due("space, ( , . , capitals, letters", x.proposals(A, 1), List.of("ne:3:0", "newa:3:0", "A.n:3:1", "ne.x:3:1",
                 "ne.x():3:1", "ne.xa:3:1", "new A():3:1", "newa.x:3:1", "newa.x():3:1", "newa.xa:3:1"));
+    }
+
+    // "a text before those that begin with it", whichever came first
+    private static void textsBeforeLongerOnes() {
+        String[] members = {"x:int", "x():int", "xa:int", "xz():int", "xzz:int"};
+        for (int first = 0; first < members.length; first++) {
+            for (int step = 1; step < members.length; step++) {
+                List<String> order = new ArrayList<>();
+                for (int i = 0; i < members.length; i++) {
+                    order.add(members[(first + i * step) % members.length]);
+                }
+                Desk x = deskOf("A{" + String.join(";", order) + "}", "v:A");
+                due("declared as " + order, x.proposals(INT, 1),
+                        List.of("v.x:0:1", "v.x():0:1", "v.xa:0:1", "v.xz():0:1", "v.xzz:0:1"));
+            }
+        }
     }
 
     private static void argumentsByTheirCharacters() {

@@ -4,8 +4,11 @@ import java.util.Random;
 /** Runs of calls, always the same ones, each answer compared with that of the oracle. */
 public final class OracleTest {
     private static final int RUNS = 1500;
-    private static final String[] NAMES = {"a", "b", "c", "x", "ab", "aa", "n", "y", "z", "nn", "abcd", "zzzz", "new", "int"};
+    private static final String[] NAMES = {"a", "b", "c", "x", "ab", "aa", "n", "y", "z", "nn", "abcd", "zzzz", "new",
+        "int"};
     private static final String[] SMALL = {"int", "long", "bool"};
+    private static final String[] PIECES = {"private ", "static ", "new(", "new ", "A", "B", "J", "K", "a", "abcd", "abcde",
+        "int", "long", "bool", ".", ",", ":", ";", "(", ")", "()", "{", "}", "A{", "x:int;", "m():A;", "a.", "A.", " ", "~"};
     private static final String MARKS = " .,:;(){}abxzABJKnew";
 
     private final Verdict verdict;
@@ -46,7 +49,7 @@ public final class OracleTest {
             variable();
         }
         for (int step = 0; step < 40; step++) {
-            switch (random.nextInt(9)) {
+            switch (random.nextInt(10)) {
                 case 0:
                     declare();
                     break;
@@ -63,6 +66,9 @@ public final class OracleTest {
                     break;
                 case 6:
                     look();
+                    break;
+                case 7:
+                    useAnything();
                     break;
                 default:
                     complete();
@@ -111,6 +117,19 @@ public final class OracleTest {
         } else if (text.matches("(.*\\(){7}.*")) {
             deepOnes++;
         }
+    }
+
+    /** Pieces of texts in any order, now and then up to the end of the buffer. */
+    private void useAnything() {
+        StringBuilder pieces = new StringBuilder();
+        int length = random.nextInt(4) == 0 ? 120 : random.nextInt(30);
+        while (pieces.length() < length) {
+            pieces.append(PIECES[random.nextInt(PIECES.length)]);
+        }
+        String text = pieces.substring(0, length);
+        due("declare " + text, x.declare(text), oracle.declare(text));
+        due("variable " + text, x.variable(text), oracle.variable(text));
+        due("check " + text, x.check(text), oracle.check(text));
     }
 
     private void look() {

@@ -3,20 +3,7 @@ import java.util.function.Supplier;
 import java.util.function.ToIntFunction;
 
 /** The promises' refusals, a sentence each: the last that is taken, the first that is refused, what it leaves. */
-public final class PromiseEdgeTest {
-    private static final int BAD = Desk.ILLEGAL_ARGUMENT;
-    private static final int STATE = Desk.ILLEGAL_STATE;
-    private static final int NONE = ChainDesk.NONE;
-    private static final int LOWEST = Integer.MIN_VALUE;
-    private static final int HIGHEST = Integer.MAX_VALUE;
-    private static final int INT = 0;
-    private static final int LONG = 1;
-    private static final int A = 3;
-    private static final int B = 4;
-    private static final int J = 12;
-
-    private static final Verdict VERDICT = new Verdict();
-
+public final class PromiseEdgeTest extends DeskCase {
     public static void main(String[] args) {
         newObjectHasNothing();
         newObjectHasAnEmptyBuffer();
@@ -54,10 +41,6 @@ public final class PromiseEdgeTest {
         seenOfOtherNumbers();
         seenUpToSixty();
         VERDICT.end();
-    }
-
-    private static void due(String call, Object got, Object want) {
-        VERDICT.due(call, got, want);
     }
 
     /** The call answers as wanted and leaves a desk that answers like one that was never asked. */
@@ -195,7 +178,8 @@ public final class PromiseEdgeTest {
         for (String text : wrong) {
             dueEmptied("declare " + text, Trace::furnished, x -> x.declare(text), BAD);
         }
-        for (String text : new String[] {"A{}", "B{}", "A:B{}", "A:A{}", "B:A{a:A;b:A;c:A;d:A;e:A;f:A}", "A{private y:int}"}) {
+        String[] known = {"A{}", "B{}", "A:B{}", "A:A{}", "B:A{a:A;b:A;c:A;d:A;e:A;f:A}", "A{private y:int}"};
+        for (String text : known) {
             dueEmptied("declare " + text, Trace::furnished, x -> x.declare(text), STATE);
         }
     }
@@ -250,7 +234,8 @@ public final class PromiseEdgeTest {
 
     // Promise 4: a refused one is no variable
     private static void variableRefusedChangesNothing() {
-        for (String text : new String[] {"", "r", "r:", "r:K", "r:ints", "r:int;", "rrrrr:int", "int:int", "a:A", "a:long", "i:B"}) {
+        String[] wrong = {"", "r", "r:", "r:K", "r:ints", "r:int;", "rrrrr:int", "int:int", "a:A", "a:long", "i:B"};
+        for (String text : wrong) {
             dueEmptied("variable " + text, Trace::furnished, x -> x.variable(text), BAD);
         }
         for (String text : new String[] {"", "r", "r:int", "a:A", "a:long", "k:C"}) {
@@ -404,13 +389,10 @@ public final class PromiseEdgeTest {
 
     // Promise 8: a refused one changes nothing else
     private static void checkRefusedChangesNothing() {
-        for (String text : new String[] {"", "a.", "a.x.", "b.m(a.x).y.", "b.m(a.x", "C.k", "new C()", "b.m(a)", "a.y", "q"}) {
+        String[] wrong = {"", "a.", "a.x.", "b.m(a.x).y.", "b.m(a.x", "C.k", "new C()", "b.m(a)", "a.y", "q"};
+        for (String text : wrong) {
             dueEmptied("check " + text, Trace::furnished, x -> x.check(text), BAD);
         }
-    }
-
-    private static String nested(String opening, String core, int times) {
-        return opening.repeat(times) + core + ")".repeat(times);
     }
 
     // Promise 8: "arguments lie more than 6 deep in one another"

@@ -1,22 +1,7 @@
 import java.util.List;
 
 /** The promises of the document one by one: ordinary inputs, the edges it names, wrong inputs. */
-public final class PromiseTest {
-    private static final int BAD = Desk.ILLEGAL_ARGUMENT;
-    private static final int STATE = Desk.ILLEGAL_STATE;
-    private static final int NONE = ChainDesk.NONE;
-    private static final int INT = 0;
-    private static final int LONG = 1;
-    private static final int BOOL = 2;
-    private static final int A = 3;
-    private static final int B = 4;
-    private static final int C = 5;
-    private static final int D = 6;
-    private static final int E = 7;
-    private static final int J = 12;
-
-    private static final Verdict VERDICT = new Verdict();
-
+public final class PromiseTest extends DeskCase {
     public static void main(String[] args) {
         newObject();
         put();
@@ -51,10 +36,6 @@ public final class PromiseTest {
         members();
         seen();
         VERDICT.end();
-    }
-
-    private static void due(String call, Object got, Object want) {
-        VERDICT.due(call, got, want);
     }
 
     // Promise 1
@@ -529,10 +510,6 @@ public final class PromiseTest {
         due("the nearest that may be used", x.check("b.x"), BOOL);
         x.desk.forget();
         due("with the scope as it is", x.check("b.x"), BAD);
-    }
-
-    private static String nested(String opening, String core, int times) {
-        return opening.repeat(times) + core + ")".repeat(times);
     }
 
     private static void checkDepth() {

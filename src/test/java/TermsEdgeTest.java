@@ -2,19 +2,7 @@ import java.util.ArrayList;
 import java.util.List;
 
 /** 'Terms' up to SCOPE, a sentence each: the last that is taken, the first that is refused, what follows. */
-public final class TermsEdgeTest {
-    private static final int BAD = Desk.ILLEGAL_ARGUMENT;
-    private static final int STATE = Desk.ILLEGAL_STATE;
-    private static final int NONE = ChainDesk.NONE;
-    private static final int INT = 0;
-    private static final int LONG = 1;
-    private static final int BOOL = 2;
-    private static final int A = 3;
-    private static final int B = 4;
-    private static final int C = 5;
-    private static final int D = 6;
-    private static final int J = 12;
-
+public final class TermsEdgeTest extends DeskCase {
     private static final String[] NAMES = {
         "a", "z", "m", "az", "za", "zzz", "aaaa", "zzzz", "n", "ne", "nev", "nex", "mew", "neww", "newa", "anew", "news",
         "in", "inu", "ins", "hint", "ints", "lon", "lonf", "lonh", "kong", "boo", "boom", "cool", "bol", "abcd",
@@ -25,10 +13,10 @@ public final class TermsEdgeTest {
         "private", "static", "a.a", "a,a", "~",
     };
 
-    private static final Verdict VERDICT = new Verdict();
-
     public static void main(String[] args) {
         bufferHolds120();
+        bufferEndsWhereItsTextDoes();
+        bufferFullWithinAWord();
         bufferTakes32To126();
         typesAreThirteen();
         namesAreTaken();
@@ -50,10 +38,6 @@ public final class TermsEdgeTest {
         variablesAreFive();
         variablesHaveNamesOfTheirOwn();
         VERDICT.end();
-    }
-
-    private static void due(String call, Object got, Object want) {
-        VERDICT.due(call, got, want);
     }
 
     // "THE BUFFER holds at most 120 characters"
@@ -82,6 +66,63 @@ public final class TermsEdgeTest {
         due("two more", x.desk.put('y' << 8 | 'y', 2), false);
         due("one more", x.desk.put('y', 1), true);
         due("nothing of the two was put", x.check(), INT);
+    }
+
+    // "its text is a declaration": what earlier texts left behind the end is no part of it
+    private static void bufferEndsWhereItsTextDoes() {
+        String declaration = "B{private static aa(long,long):long;private static bb(long,bool):bool;"
+                + "static cc(long,long):bool;d(long,long):bool;new()}";
+        for (int end = 0; end < declaration.length(); end++) {
+            Desk x = new Desk();
+            due("whole", x.declare(declaration), 5);
+            due("cut off at " + end, x.declare(declaration.substring(0, end)), BAD);
+        }
+        String expression = "new A(a,new A(a,b.x)).m(a,a).x.m(b,A.s())";
+        for (int end = 0; end < expression.length(); end++) {
+            Desk fresh = deskWithMaker();
+            Desk x = deskWithMaker();
+            due("whole", x.check(expression), A);
+            String part = expression.substring(0, end);
+            due("cut off at " + end, x.check(part), fresh.check(part));
+        }
+    }
+
+    private static Desk deskWithMaker() {
+        Desk x = new Desk();
+        x.declare("A{x:A;m(A,A):A;new(A,A);static s():A}");
+        x.variable("a:A");
+        x.variable("b:A");
+        return x;
+    }
+
+    // "at most 120 characters": a word that is cut off by the end of a full buffer
+    private static void bufferFullWithinAWord() {
+        String start = "A{aaaa(long,long):long;bbbb(long,long):long;cccc(long,long):long;dddd(long,long):long;";
+        for (String word : new String[] {"private ", "static ", "new("}) {
+            for (int length = 1; length <= word.length(); length++) {
+                String text = start + method(119 - start.length() - length) + ";" + word.substring(0, length);
+                due("120 characters", text.length(), 120);
+                due("declare " + text, new Desk().declare(text), BAD);
+            }
+        }
+        for (int length = 1; length <= 4; length++) {
+            int rest = 116 - length;
+            String middle = rest % 2 == 0 ? ".x".repeat(rest / 2) : ".m(a)" + ".x".repeat((rest - 5) / 2);
+            String text = "a" + middle + ".m(" + "new ".substring(0, length);
+            Desk x = new Desk();
+            x.declare("A{x:A;m(A):A;new()}");
+            x.variable("a:A");
+            due("120 characters", text.length(), 120);
+            due("check " + text, x.check(text), BAD);
+        }
+    }
+
+    /** A method whose declaration has so many characters (25 .. 32). */
+    private static String method(int length) {
+        String start = length <= 28 ? "private " : "private static ";
+        int left = length - start.length() - "(long,long):".length();
+        String type = left <= 5 ? "A" : left <= 7 ? "int" : "long";
+        return start + "eeee".substring(0, left - type.length()) + "(long,long):" + type;
     }
 
     // "32 .. 126"
@@ -247,6 +288,8 @@ public final class TermsEdgeTest {
         due("seven below it", x.declare("C:B{a:A;b:A;c:A;d:A;e:A;f:A;g:A}"), BAD);
         due("six fields and a method", x.declare("C{a:A;b:A;c:A;d:A;e:A;f:A;a():A}"), BAD);
         due("an empty seventh", x.declare("C{a:A;b:A;c:A;d:A;e:A;f:A;}"), BAD);
+        due("the seventh is not there", x.declare("C{a:A;b:A;c:A;d:A;e:A;f:A;"), BAD);
+        due("no brace", x.declare("C{a:A;b:A;c:A;d:A;e:A;f:A"), BAD);
         due("not declared", x.desk.members(2), NONE);
     }
 
@@ -278,10 +321,16 @@ public final class TermsEdgeTest {
                 due("its members", x.desk.members(0), taken ? 1 : NONE);
             }
         }
-        for (String list : new String[] {",", "int,", ",int", "int,,int", "int;int", "int int", "intint", "AB", "int,long,"}) {
+        String[] wrong = {",", "int,", ",int", "int,,int", "int;int", "int int", "intint", "AB", "int,long,"};
+        for (String list : wrong) {
             Desk x = new Desk();
             due("method of " + list, x.declare("A{m(" + list + "):int}"), BAD);
             due("maker of " + list, x.declare("A{new(" + list + ")}"), BAD);
+        }
+        for (String list : new String[] {"", "int", "int,", "int,long", "int,long,", "int,long,bool"}) {
+            Desk x = new Desk();
+            due("method of (" + list, x.declare("A{m(" + list + ":int}"), BAD);
+            due("maker of (" + list, x.declare("A{new(" + list + "}"), BAD);
         }
     }
 
@@ -389,8 +438,8 @@ public final class TermsEdgeTest {
     // "only if neither is static and all their types are the same"
     private static void methodsOfSuperclasses() {
         String above = "m(int,A):B";
-        String[] wrong = {"static m(int,A):B", "m(int,A):A", "m(int,A):int", "m(long,A):B", "m(int,B):B", "m(int):B", "m():B",
-            "m(A,int):B", "m(int,int):B", "private m(int,A):A", "private static m(int,A):B", "private m():B"};
+        String[] wrong = {"static m(int,A):B", "m(int,A):A", "m(int,A):int", "m(long,A):B", "m(int,B):B", "m(int):B",
+            "m():B", "m(A,int):B", "m(int,int):B", "private m(int,A):A", "private static m(int,A):B", "private m():B"};
         for (String method : wrong) {
             Desk x = new Desk();
             x.declare("A{" + above + "}");
