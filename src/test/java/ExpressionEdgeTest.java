@@ -20,6 +20,7 @@ public final class ExpressionEdgeTest extends DeskCase {
         keptLeadOn();
         textsByTheirCharacters();
         textsBeforeLongerOnes();
+        textsAfterLongerOnes();
         argumentsByTheirCharacters();
         variablesByTheirCharacters();
         proposalsAreTen();
@@ -352,6 +353,17 @@ public final class ExpressionEdgeTest extends DeskCase {
                         List.of("v.x:0:1", "v.x():0:1", "v.xa:0:1", "v.xz():0:1", "v.xzz:0:1"));
             }
         }
+    }
+
+    // likewise, whatever an earlier completion left behind
+    private static void textsAfterLongerOnes() {
+        Desk x = deskOf("zzza:int", "zzzb:int", "zzzc:int", "zzzd:int", "zzze:int");
+        due("five of four letters", x.complete(INT, 0), 5);
+        x.desk.forget();
+        for (String name : new String[] {"b", "a", "ab", "aba", "abab"}) {
+            x.variable(name + ":int");
+        }
+        due("shorter ones", x.proposals(INT, 0), List.of("a:0:0", "ab:0:0", "aba:0:0", "abab:0:0", "b:0:0"));
     }
 
     private static void argumentsByTheirCharacters() {
